@@ -373,8 +373,9 @@ public final class HymnEndings {
         }
     }
 
+    /** Lines and endings are both divided by. */
     private void checkNotEmpty() {
-        if (book.lines() == 0) {
+        if (book.lines() == 0 || order.endings() == 0) {
             throw new ArithmeticException("there are no lines");
         }
     }

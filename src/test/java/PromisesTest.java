@@ -133,6 +133,14 @@ public final class PromisesTest {
         CHECK.is("4 cut of a full book", full.cut(2), 7);
         CHECK.is("4 lines of a full book", Books.lines(full), "a b d e f g hhhhhhhhhh");
         CHECK.is("4 a line again", Books.add(full, "i"), 7);
+        full.cut(7);
+        CHECK.refuses("4 no letters of a line that was cut", NO_INDEX, () -> full.letter(7, 0));
+        CHECK.refuses("4 no rank of a line that was cut", NO_INDEX, () -> full.rank(7, 0));
+        HymnEndings repeats = Books.of("ab", "ab");
+        repeats.cut(1);
+        CHECK.is("4 no repeats then", repeats.longest(), 0);
+        CHECK.is("4 nothing in common then", repeats.account(3), 0);
+        CHECK.is("4 no share of repeats then", repeats.repeatShare(), 0.0);
     }
 
     // Promise 5
@@ -332,6 +340,17 @@ public final class PromisesTest {
         CHECK.is("16 none", Books.of("abc", "def").longest(), 0);
         CHECK.is("16 ten", Books.of("abcdefghij", "b", "abcdefghij").longest(), 10);
         CHECK.is("16 one letter", Books.of("abca").longest(), 1);
+        HymnEndings full = new HymnEndings();
+        for (int line = 0; line < 8; line++) {
+            Books.add(full, "aaaaaaaaaa");
+        }
+        CHECK.is("16 of a full book", full.longest(), 10);
+        CHECK.is("17 of a full book", full.longestRank(), 72);
+        CHECK.is("18 of a full book", full.pieces(), 10);
+        CHECK.is("19 of a full book", full.piecesAgain(), 10);
+        CHECK.is("33 of a full book", full.writeLongest(), 10);
+        CHECK.is("36 of a full book", full.repeatShare(), 79.0 / 80.0);
+        CHECK.is("37 of a full book", full.account(3), 8 * 55 - 10);
     }
 
     // Promise 17
@@ -398,6 +417,11 @@ public final class PromisesTest {
         HymnEndings last = Books.of("abcdefghij", "zzzzzzzzzz");
         Books.type(last, "z");
         CHECK.is("21 the last ones", last.finds(), 10);
+        HymnEndings near = Books.of("abc", "bcd", "ccd");
+        Books.type(near, "b");
+        CHECK.is("21 between near letters", near.finds(), 2);
+        Books.type(near, "d");
+        CHECK.is("21 between near words", near.finds(), 0);
     }
 
     // Promise 22
@@ -446,6 +470,8 @@ public final class PromisesTest {
         CHECK.is("24 a", book.isLine(), false);
         book.append('n');
         CHECK.is("24 an", book.isLine(), true);
+        book.swap(0, 1);
+        CHECK.is("24 an as the first line", book.isLine(), true);
         book.append('a');
         CHECK.is("24 ana", book.isLine(), false);
         CHECK.is("24 buffer stays", book.account(6), 3);
@@ -511,6 +537,7 @@ public final class PromisesTest {
         CHECK.is("28 shorter", book.isTurned(0, 3), false);
         CHECK.is("28 longer", book.isTurned(0, 4), false);
         CHECK.is("28 other letters", book.isTurned(0, 5), false);
+        CHECK.is("28 other letters within", Books.of("abcd", "dxba").isTurned(0, 1), false);
         CHECK.refuses("28 no line", NO_INDEX, () -> book.isTurned(6, 0));
         CHECK.refuses("28 no other line", NO_INDEX, () -> book.isTurned(0, 6));
         CHECK.refuses("28 no line", NO_INDEX, () -> book.isTurned(-1, 0));
@@ -694,6 +721,7 @@ public final class PromisesTest {
         CHECK.is("35 mean", Books.of("a", "b", "cd").meanLetters(), 4f / 3f);
         CHECK.is("35 whole", Books.of("abc", "a").meanLetters(), 2f);
         CHECK.is("35 seventh", Books.of("ab", "b", "c", "d", "e", "f", "g").meanLetters(), 8f / 7f);
+        CHECK.is("35 one letter", Books.of("a").meanLetters(), 1f);
         CHECK.refuses("35 no lines", NO_NUMBER, new HymnEndings()::meanLetters);
     }
 
@@ -702,6 +730,7 @@ public final class PromisesTest {
         CHECK.is("36 share", Books.of("banana", "an").repeatShare(), 0.625);
         CHECK.is("36 third", Books.of("aab").repeatShare(), 1.0 / 3.0);
         CHECK.is("36 none", Books.of("abc").repeatShare(), 0.0);
+        CHECK.is("36 one letter", Books.of("a").repeatShare(), 0.0);
         CHECK.refuses("36 no lines", NO_NUMBER, new HymnEndings()::repeatShare);
     }
 
@@ -715,6 +744,7 @@ public final class PromisesTest {
         }
         CHECK.refuses("37 account 7", WRONG, () -> book.account(7));
         CHECK.refuses("37 account -1", WRONG, () -> book.account(-1));
+        CHECK.is("37 same when turned", Books.of("aba", "ab", "z", "abcba", "abca").account(4), 3);
         CHECK.is("37 all letters", Books.of("abcdefghij", "klmnopqrst", "uvwxyz").account(2), 26);
     }
 
