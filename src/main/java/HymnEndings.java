@@ -8,7 +8,6 @@ public final class HymnEndings {
     private static final int MOST_CHARACTERS = 60;
     private static final int MOST_CHANGES = 8;
     private static final int MOST_REASONS = 3;
-    private static final int MOST_WRITTEN = 16;
     private static final int MOST_HALVINGS = 100;
 
     /** Less than every letter, so that an ending without more letters comes first. */
@@ -35,7 +34,7 @@ public final class HymnEndings {
     private final Refusal refusal;
     private final History history;
     private final EndingOrder order;
-    private final WrittenLine written;
+    private final Text written;
     private int fault;
     private boolean isSaved;
 
@@ -48,7 +47,7 @@ public final class HymnEndings {
         refusal = new Refusal();
         history = new History();
         order = new EndingOrder();
-        written = new WrittenLine();
+        written = new Text();
         fault = NO_FAULT;
         isSaved = false;
     }
@@ -847,7 +846,7 @@ public final class HymnEndings {
         }
     }
 
-    /** The text buffer. */
+    /** A row of characters: the text buffer, or the line that was written, which needs less room. */
     private static final class Text {
         private final char[] characters;
         private int length;
@@ -880,8 +879,18 @@ public final class HymnEndings {
             return index >= 0 && index < length ? characters[index] : NO_LETTER;
         }
 
+        void putDigit(int digit) {
+            put((char) ('0' + digit));
+        }
+
         int digitAt(int index) {
             return characterAt(index) - '0';
+        }
+
+        void putLetters(Book book, int line, int place, int count) {
+            for (int index = 0; index < count; index++) {
+                put(book.letterAt(line, place + index));
+            }
         }
 
         boolean isWord() {
@@ -1205,46 +1214,6 @@ public final class HymnEndings {
             if (size > 0) {
                 size--;
                 book.copyFrom(books[(oldest + size) % MOST_CHANGES]);
-            }
-        }
-    }
-
-    /** The line that was written. */
-    private static final class WrittenLine {
-        private final char[] characters;
-        private int length;
-
-        WrittenLine() {
-            characters = new char[MOST_WRITTEN];
-            length = 0;
-        }
-
-        int length() {
-            return length;
-        }
-
-        void clear() {
-            length = 0;
-        }
-
-        char characterAt(int index) {
-            return index >= 0 && index < length ? characters[index] : NO_LETTER;
-        }
-
-        void put(char character) {
-            if (length < MOST_WRITTEN) {
-                characters[length] = character;
-                length++;
-            }
-        }
-
-        void putDigit(int digit) {
-            put((char) ('0' + digit));
-        }
-
-        void putLetters(Book book, int line, int place, int count) {
-            for (int index = 0; index < count; index++) {
-                put(book.letterAt(line, place + index));
             }
         }
     }
