@@ -564,6 +564,9 @@ public final class PromisesTest {
         CHECK.is("29 lines", Books.lines(book), "b abc");
         CHECK.is("29 twenty commands", Books.command(book, "-0" + ";+c;-0".repeat(9) + ";+d"), 20);
         CHECK.is("29 lines", Books.lines(book), "c d");
+        HymnEndings full = new HymnEndings();
+        CHECK.is("29 a short command ends the buffer", Books.command(full, "+ab" + ";-0;+a".repeat(9) + ";-0"), 20);
+        CHECK.is("29 no lines", full.account(0), 0);
     }
 
     // Promise 29
