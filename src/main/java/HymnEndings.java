@@ -956,7 +956,7 @@ public final class HymnEndings {
         }
     }
 
-    /** The changes that can be refused: each is carried out, or its reason is kept; the answer is whether it was done. */
+    /** The changes that can be refused: each is carried out, or its reason is kept. The answer tells which. */
     private static final class Changes {
         static boolean addText(Book book, Refusal refusal, Text text) {
             if (!text.isWord()) {

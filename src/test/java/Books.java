@@ -1,3 +1,6 @@
+import java.util.LinkedHashMap;
+import java.util.Map;
+
 /** Short ways to make books and to tell what is in them. */
 final class Books {
     private Books() {
@@ -29,13 +32,29 @@ final class Books {
 
     static String lines(HymnEndings book) {
         StringBuilder lines = new StringBuilder();
-        for (int line = 0; line < book.account(0); line++) {
+        int count = book.account(0);
+        for (int line = 0; line < count; line++) {
             lines.append(line == 0 ? "" : " ");
-            for (int place = 0; place < book.lineOf(line, 0); place++) {
+            int size = book.lineOf(line, 0);
+            for (int place = 0; place < size; place++) {
                 lines.append(book.letter(line, place));
             }
         }
         return lines.toString();
+    }
+
+    /** Eight lines of one letter, a to h. */
+    static HymnEndings full() {
+        return of("a", "b", "c", "d", "e", "f", "g", "h");
+    }
+
+    /** Eight lines of ten letters, all of them a. */
+    static HymnEndings fullest() {
+        HymnEndings book = new HymnEndings();
+        for (int line = 0; line < 8; line++) {
+            add(book, "aaaaaaaaaa");
+        }
+        return book;
     }
 
     /** The first so many characters of what was written; the one behind them must be missing. */
@@ -69,14 +88,74 @@ final class Books {
     /** All endings in the order of their ranks, as in "0/1:b 0/0:ab". */
     static String order(HymnEndings book) {
         StringBuilder order = new StringBuilder();
-        for (int rank = 0; rank < book.account(1); rank++) {
+        String[] lines = lines(book).split(" ");
+        int endings = book.account(1);
+        for (int rank = 0; rank < endings; rank++) {
             int line = book.ending(rank, false);
             int place = book.ending(rank, true);
             order.append(rank == 0 ? "" : " ").append(line).append('/').append(place).append(':');
-            for (int at = place; at < book.lineOf(line, 0); at++) {
-                order.append(book.letter(line, at));
-            }
+            order.append(lines[line].substring(place));
         }
         return order.toString();
+    }
+
+    /** All that was written. */
+    static String written(HymnEndings book) {
+        StringBuilder text = new StringBuilder();
+        try {
+            while (true) {
+                text.append(book.character(text.length()));
+            }
+        } catch (IndexOutOfBoundsException end) {
+            return text.toString();
+        }
+    }
+
+    /** What can be asked without a change, by its name. */
+    static Map<String, String> state(HymnEndings book) {
+        Map<String, String> state = new LinkedHashMap<>();
+        state.put("lines", lines(book));
+        state.put("order", order(book));
+        for (int what = 0; what <= 6; what++) {
+            state.put("account " + what, Integer.toString(book.account(what)));
+        }
+        state.put("pieces", book.longest() + " " + book.pieces() + " " + book.piecesAgain() + " " + book.kinds());
+        state.put("fault", Integer.toString(book.faultPosition()));
+        state.put("reasons", reasons(book));
+        state.put("written", written(book));
+        return state;
+    }
+
+    /** What the rest of the calls bring to light: the buffer, what can be undone, the snapshot. It uses the book up. */
+    static String future(HymnEndings book) {
+        StringBuilder future = new StringBuilder("word " + addsWord(book));
+        try {
+            while (true) {
+                book.undo();
+                future.append(" undo ").append(lines(book));
+            }
+        } catch (IllegalStateException end) {
+            future.append(" no more");
+        }
+        try {
+            future.append(" saved ").append(book.restore()).append(' ').append(lines(book));
+        } catch (IllegalStateException none) {
+            future.append(" not saved");
+        }
+        return future.toString();
+    }
+
+    private static String addsWord(HymnEndings book) {
+        int changes = book.account(5);
+        try {
+            book.add();
+        } catch (UnsupportedOperationException refused) {
+            return "refused for " + reasons(book);
+        }
+        String lines = lines(book);
+        if (changes < 8) {
+            book.undo();
+        }
+        return "makes " + lines;
     }
 }

@@ -5,7 +5,8 @@ public final class ModelTest {
     private static final Check CHECK = new Check("ModelTest");
     private static final int RUNS = 400;
     private static final int CALLS = 512;
-    private static final char[] ODD_CHARACTERS = {'A', ';', '0', '`', '{', ' ', '\0', '\uffff', '+', '9', '/', ':', '-'};
+    private static final char[] ODD_CHARACTERS =
+            {'A', ';', '0', '`', '{', ' ', '\0', '\uffff', '+', '9', '/', ':', '-'};
 
     private interface Call {
         Object answer();
