@@ -1,3 +1,5 @@
+import java.util.function.Supplier;
+
 /** Counts the answers that are not as due, and ends the test with exit code 1 if there was one. */
 final class Check {
     private final String test;
@@ -33,6 +35,20 @@ final class Check {
             got = thrown.getClass().getName();
         }
         note(got.equals(due.getName()), what + " throws", got, due.getName());
+    }
+
+    /** Both calls must answer the same, or throw an exception of the same class. */
+    void same(String what, Supplier<?> got, Supplier<?> due) {
+        is(what, told(got), told(due));
+    }
+
+    /** What the call answers, or what it throws. */
+    static String told(Supplier<?> call) {
+        try {
+            return String.valueOf(call.get());
+        } catch (RuntimeException thrown) {
+            return "throws " + thrown.getClass().getSimpleName();
+        }
     }
 
     void finish() {

@@ -6,9 +6,9 @@ import java.util.LinkedHashMap;
 import java.util.List;
 import java.util.Map;
 
-/** The use, the terms and the promises of DOC.md, of which the tests quote the sentences that they test. */
+/** What it is, the terms and the promises of DOC.md, of which the tests quote the sentences that they test. */
 final class Document {
-    static final String USE = "What it is";
+    static final String WHAT_IT_IS = "What it is";
     static final String TERMS = "Terms";
 
     private static final Path DOC = Path.of("../shared/DOC.md");
@@ -18,15 +18,13 @@ final class Document {
     Document() throws IOException {
         String section = "";
         boolean isCode = false;
-        for (String line : Files.readAllLines(DOC)) {
+        for (String line : allLines()) {
             if (line.startsWith("```")) {
                 isCode = !isCode;
             } else if (line.startsWith("## ")) {
                 section = sectionOf(line);
             } else if (line.startsWith("Examples:")) {
                 section = "";
-            } else if (line.startsWith("A sorter ")) {
-                continue;
             } else if (!isCode && !section.isEmpty() && !plain(line).isEmpty()) {
                 sections.computeIfAbsent(section, name -> new StringBuilder()).append(plain(line)).append(' ');
             }
@@ -34,10 +32,14 @@ final class Document {
         sections.forEach((name, text) -> quoted.put(name, new boolean[text.length()]));
     }
 
+    static List<String> allLines() throws IOException {
+        return Files.readAllLines(DOC);
+    }
+
     /** The number of a promise, or the name of another section; "" for one that is not quoted. */
     private static String sectionOf(String heading) {
         String name = heading.replaceAll("^## (?:Promise (?=\\d))?|(?<=\\d): .*$", "");
-        return name.matches("\\d+") || name.equals(USE) || name.equals(TERMS) ? name : "";
+        return name.matches("\\d+") || name.equals(WHAT_IT_IS) || name.equals(TERMS) ? name : "";
     }
 
     /** Without the heads of methods and paragraphs, and without the parameters of which no number is told. */

@@ -1,3 +1,4 @@
+import java.io.IOException;
 import java.lang.reflect.Constructor;
 import java.lang.reflect.Field;
 import java.lang.reflect.Method;
@@ -6,53 +7,16 @@ import java.util.Arrays;
 import java.util.HashSet;
 import java.util.Set;
 import java.util.TreeSet;
+import java.util.regex.Matcher;
+import java.util.regex.Pattern;
 import java.util.stream.Collectors;
 
 /** The public face is the document's, to the last exception, and nothing else can be seen from outside. */
 public final class FaceTest {
     private static final Check CHECK = new Check("FaceTest");
-    private static final String[] FACE = {
-        "int append(char) IllegalStateException",
-        "int add() UnsupportedOperationException",
-        "int cut(int) UnsupportedOperationException",
-        "int change(int,int,char) UnsupportedOperationException",
-        "int swap(int,int) UnsupportedOperationException",
-        "int join(int,int) UnsupportedOperationException",
-        "int turn(int) UnsupportedOperationException",
-        "int lineOf(int,int) IndexOutOfBoundsException,IllegalArgumentException",
-        "char letter(int,int) IndexOutOfBoundsException",
-        "int ending(int,boolean) NoSuchElementException",
-        "int rank(int,int) IndexOutOfBoundsException",
-        "int rankAgain(int,int) IndexOutOfBoundsException",
-        "int common(int) NoSuchElementException",
-        "int commonOf(int,int,int,int) IndexOutOfBoundsException",
-        "int longest() ",
-        "int longestRank() NoSuchElementException",
-        "int pieces() ",
-        "int piecesAgain() ",
-        "int kinds() ",
-        "int finds() IllegalArgumentException",
-        "int findsAgain() IllegalArgumentException",
-        "int firstFind() IllegalArgumentException,NoSuchElementException",
-        "boolean isLine() IllegalArgumentException",
-        "int shared(int,int) IndexOutOfBoundsException",
-        "int alone(int) IndexOutOfBoundsException,NoSuchElementException",
-        "int alonePlace(int) IndexOutOfBoundsException,NoSuchElementException",
-        "boolean isTurned(int,int) IndexOutOfBoundsException",
-        "int commands() IllegalArgumentException,UnsupportedOperationException",
-        "int faultPosition() ",
-        "int reason(int,boolean) IllegalArgumentException,NoSuchElementException",
-        "int write(int) NoSuchElementException",
-        "int writeLongest() NoSuchElementException",
-        "char character(int) IndexOutOfBoundsException",
-        "float meanLetters() ArithmeticException",
-        "double repeatShare() ArithmeticException",
-        "int account(int) IllegalArgumentException",
-        "int undo() IllegalStateException",
-        "int save() ",
-        "int restore() IllegalStateException"};
+    private static final Pattern METHOD = Pattern.compile("public (\\w+ \\w+)\\((.*)\\)(?: throws (.*))?;");
 
-    public static void main(String[] args) {
+    public static void main(String[] args) throws IOException {
         Class<?> face = HymnEndings.class;
         CHECK.is("modifiers", Modifier.toString(face.getModifiers()), "public final");
         CHECK.is("super class", face.getSuperclass().getName(), "java.lang.Object");
@@ -60,13 +24,29 @@ public final class FaceTest {
         Constructor<?>[] constructors = face.getDeclaredConstructors();
         CHECK.is("constructors", constructors.length, 1);
         CHECK.is("constructor", constructors[0].toString(), "public HymnEndings()");
-        methods(face);
+        Set<String> due = faceOfTheDocument();
+        CHECK.is("methods of the document", due.size(), 39);
+        methods(face, due);
         fields(face);
         nested(face);
         CHECK.finish();
     }
 
-    private static void methods(Class<?> face) {
+    /** Its methods, as in "int cut(int) UnsupportedOperationException". */
+    private static Set<String> faceOfTheDocument() throws IOException {
+        Set<String> methods = new TreeSet<>();
+        for (String line : Document.allLines()) {
+            Matcher matcher = METHOD.matcher(line.trim());
+            if (matcher.matches()) {
+                String types = matcher.group(2).replaceAll(" \\w+(?=,|$)", "").replace(" ", "");
+                String exceptions = matcher.group(3) == null ? "" : matcher.group(3).replace(" ", "");
+                methods.add(matcher.group(1) + "(" + types + ") " + exceptions);
+            }
+        }
+        return methods;
+    }
+
+    private static void methods(Class<?> face, Set<String> due) {
         Set<String> found = new TreeSet<>();
         Set<String> publicNames = new HashSet<>();
         for (Method method : face.getDeclaredMethods()) {
@@ -76,7 +56,7 @@ public final class FaceTest {
                 CHECK.is("modifiers of " + method.getName(), Modifier.toString(method.getModifiers()), "public");
             }
         }
-        CHECK.is("methods", String.join("\n", found), String.join("\n", new TreeSet<>(Arrays.asList(FACE))));
+        CHECK.is("methods", String.join("\n", found), String.join("\n", due));
         for (Class<?> owner : face.getDeclaredClasses()) {
             noneHasNameOf(publicNames, owner);
         }

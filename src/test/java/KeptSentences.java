@@ -33,7 +33,7 @@ final class KeptSentences extends Sentences {
     }
 
     private void callsOfAnObject() {
-        use("An object is used for at most 512 calls after it has been made; what later calls answer is free.");
+        whatItIs("An object is used for at most 512 calls after it has been made; what later calls answer is free.");
         HymnEndings changes = changed(501);
         for (int undo = 1; undo <= 8; undo++) {
             changes.undo();

@@ -1,4 +1,5 @@
 import java.util.Random;
+import java.util.function.Supplier;
 
 /** Runs of 512 calls by a fixed seed, each answer or exception compared with that of the model. */
 public final class ModelTest {
@@ -7,10 +8,6 @@ public final class ModelTest {
     private static final int CALLS = 512;
     private static final char[] ODD_CHARACTERS =
             {'A', ';', '0', '`', '{', ' ', '\0', '\uffff', '+', '9', '/', ':', '-'};
-
-    private interface Call {
-        Object answer();
-    }
 
     private final Random random;
     private final int letters;
@@ -42,19 +39,11 @@ public final class ModelTest {
     }
 
     /** What differs, or null. */
-    private String differs(String name, Call got, Call due) {
+    private String differs(String name, Supplier<?> got, Supplier<?> due) {
         calls++;
-        String answer = told(got);
-        String dueAnswer = told(due);
+        String answer = Check.told(got);
+        String dueAnswer = Check.told(due);
         return answer.equals(dueAnswer) ? null : name + " answered " + answer + ", due is " + dueAnswer;
-    }
-
-    private static String told(Call call) {
-        try {
-            return String.valueOf(call.answer());
-        } catch (RuntimeException thrown) {
-            return "throws " + thrown.getClass().getName();
-        }
     }
 
     private int pick(int bound) {

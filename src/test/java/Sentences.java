@@ -29,8 +29,8 @@ abstract class Sentences {
         }
     }
 
-    void use(String words) {
-        says(Document.USE, words);
+    void whatItIs(String words) {
+        says(Document.WHAT_IT_IS, words);
     }
 
     void terms(String words) {
